@@ -33,12 +33,10 @@ public final class SandPlates {
     private static final int[] STEP_Y = {-1, 0, 1, 0};
 
     private final Plate plate = new Plate();
-    private final Plate told = new Plate();
     private final History history = new History();
     private final Plate[] images = new Plate[IMAGES];
     private final boolean[] isKept = new boolean[IMAGES];
-    private final Text text = new Text();
-    private final Teller teller = new Teller(text, told);
+    private final Teller teller = new Teller();
     private final Motions motions = new Motions();
     private final Sand sand = new Sand();
     private final Seen seen = new Seen();
@@ -56,12 +54,12 @@ public final class SandPlates {
         if (letter < 0 || letter > 255) {
             return BAD;
         }
-        return text.add(letter) ? text.length : FULL;
+        return teller.text.add(letter) ? teller.text.length : FULL;
     }
 
     public int clear() {
-        int had = text.length;
-        text.length = 0;
+        int had = teller.text.length;
+        teller.text.length = 0;
         return had;
     }
 
@@ -71,8 +69,8 @@ public final class SandPlates {
             return items;
         }
         history.record(plate);
-        plate.takeFrom(told);
-        text.length = 0;
+        plate.takeFrom(teller.plate);
+        teller.text.length = 0;
         return items;
     }
 
@@ -279,7 +277,7 @@ public final class SandPlates {
             case 3: return plate.mostGrains();
             case 4: return plate.cellsWithGrains(0);
             case 5: return seen.many;
-            case 6: return text.length;
+            case 6: return teller.text.length;
             case 7: return history.known;
             default: return BAD;
         }
@@ -411,30 +409,20 @@ public final class SandPlates {
             for (int y = 0; y < rows; y++) {
                 for (int x = 0; x < columns; x++) {
                     int at = columns * y + x;
-                    steps += figure[at] == 1 ? stepsToStill(motion, x, y) : 0;
-                    steps += isStill(motion, at) ? stepsToFigure(x, y) : 0;
+                    steps += figure[at] == 1 ? stepsToNearest(motion, true, x, y) : 0;
+                    steps += isStill(motion, at) ? stepsToNearest(motion, false, x, y) : 0;
                 }
             }
             return steps;
         }
 
-        private int stepsToStill(int[] motion, int fromX, int fromY) {
+        /** The steps to the nearest still cell, or else to the nearest one of the figure. */
+        private int stepsToNearest(int[] motion, boolean toStill, int fromX, int fromY) {
             int nearest = MOST_CELLS;
             for (int y = 0; y < rows; y++) {
                 for (int x = 0; x < columns; x++) {
-                    if (isStill(motion, columns * y + x)) {
-                        nearest = Math.min(nearest, Math.abs(x - fromX) + Math.abs(y - fromY));
-                    }
-                }
-            }
-            return nearest;
-        }
-
-        private int stepsToFigure(int fromX, int fromY) {
-            int nearest = MOST_CELLS;
-            for (int y = 0; y < rows; y++) {
-                for (int x = 0; x < columns; x++) {
-                    if (figure[columns * y + x] == 1) {
+                    int at = columns * y + x;
+                    if (toStill ? isStill(motion, at) : figure[at] == 1) {
                         nearest = Math.min(nearest, Math.abs(x - fromX) + Math.abs(y - fromY));
                     }
                 }
@@ -743,21 +731,16 @@ public final class SandPlates {
         }
     }
 
-    /** Reads THE TEXT into a plate; where a read answers false, the text stands at the faulty token. */
+    /** Reads THE TEXT into a plate of its own; where a read answers false, the text stands at the faulty token. */
     private static final class Teller {
         /** The words behind those of the settings, which have the settings' numbers. */
         private static final int PLATE = 6, DRIVE = 7, ROW = 8;
         private static final int NO_WORD = -1;
 
-        private final Text text;
-        private final Plate plate;
+        private final Text text = new Text();
+        private final Plate plate = new Plate();
         private boolean isPlateFixed;
         private int rowsTold;
-
-        private Teller(Text text, Plate plate) {
-            this.text = text;
-            this.plate = plate;
-        }
 
         /** How many items there are, or -10 less the fault's place. */
         private int readAll() {

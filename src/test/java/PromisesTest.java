@@ -184,6 +184,11 @@ public final class PromisesTest {
         fault("los", 0);
         fault("losss 3;", 0);
         fault("plateplate 3 3;", 0);
+        fault("edgez 0;", 0);
+        fault("edge{0;", 4);
+        fault("edge`0;", 4);
+        fault("edge 0/;", 6);
+        fault("edge 0:;", 6);
         fault("Loss 3;", 0);
         fault("loSs 3;", 0);
         fault(";", 0);
@@ -641,5 +646,9 @@ public final class PromisesTest {
             empty += x.cell(at % 6, at / 6, 2) == 0 ? 1 : 0;
         }
         counts("shaken", x, 6, 2, 4, most, empty, 2, 1, 3);
+        x = told("plate 2 2;limit 0;edge 0;stiff 1;loss 2;drive 1 1;");
+        x.shakes(20);
+        due("all grains on cell 0", x.cell(0, 0, 2), 4);
+        counts("all grains on cell 0", x, 2, 2, 0, 4, 3);
     }
 }
