@@ -48,6 +48,9 @@ public final class ModelTest {
 
         private boolean check(String call, int got, int want) {
             calls.add(call);
+            if (calls.size() > CALLS) {
+                throw new IllegalStateException("nothing is promised behind " + CALLS + " calls");
+            }
             if (got == want) {
                 return true;
             }
@@ -57,10 +60,14 @@ public final class ModelTest {
         }
 
         private boolean tellSomething() {
-            if (random.nextInt(3) > 0 && !check("clear()", real.clear(), model.clear())) {
+            boolean clears = random.nextInt(3) > 0 && calls.size() < CALLS - 1;
+            if (clears && !check("clear()", real.clear(), model.clear())) {
                 return false;
             }
             for (char letter : someText().toCharArray()) {
+                if (calls.size() >= CALLS - 1) {
+                    break;
+                }
                 if (!check("type(" + (int) letter + ")", real.type(letter), model.type(letter))) {
                     return false;
                 }

@@ -9,43 +9,43 @@ public final class PromisesTest {
         }
     }
 
-    private static void type(SandPlates x, String text) {
+    private static void type(Counted x, String text) {
         for (int i = 0; i < text.length(); i++) {
             x.type(text.charAt(i));
         }
     }
 
     /** Types a text into an empty TEXT and tells it. */
-    private static int tell(SandPlates x, String text) {
+    private static int tell(Counted x, String text) {
         x.clear();
         type(x, text);
         return x.tells();
     }
 
-    private static SandPlates told(String text) {
-        SandPlates x = new SandPlates();
+    private static Counted told(String text) {
+        Counted x = new Counted();
         due("telling " + text, tell(x, text) < 0 ? 1 : 0, 0);
         return x;
     }
 
     private static void fault(String text, int place) {
-        SandPlates x = new SandPlates();
+        Counted x = new Counted();
         due("the fault of '" + text + "'", tell(x, text), -10 - place);
         due("letters behind the fault of '" + text + "'", x.count(6), text.length());
         due("undone behind the fault of '" + text + "'", x.count(7), 0);
     }
 
     private static void items(String text, int many) {
-        due("the items of '" + text + "'", tell(new SandPlates(), text), many);
+        due("the items of '" + text + "'", tell(new Counted(), text), many);
     }
 
-    private static void settings(String name, SandPlates x, int... want) {
+    private static void settings(String name, Counted x, int... want) {
         for (int what = 0; what < want.length; what++) {
             due(name + ": setting(" + what + ")", x.setting(what), want[what]);
         }
     }
 
-    private static void counts(String name, SandPlates x, int... want) {
+    private static void counts(String name, Counted x, int... want) {
         for (int what = 0; what < want.length; what++) {
             due(name + ": count(" + what + ")", x.count(what), want[what]);
         }
@@ -81,7 +81,7 @@ public final class PromisesTest {
     }
 
     private static void newObject() {
-        SandPlates x = new SandPlates();
+        Counted x = new Counted();
         settings("new", x, 1, 4, 8, 40, 8, 10, 0);
         counts("new", x, 3, 3, 0, 1, 0, 0, 0, 0);
         due("new: back(0)", x.back(0), SandPlates.STATE);
@@ -97,7 +97,7 @@ public final class PromisesTest {
     }
 
     private static void typeAndClear() {
-        SandPlates x = new SandPlates();
+        Counted x = new Counted();
         due("type(-1)", x.type(-1), SandPlates.BAD);
         due("type(256)", x.type(256), SandPlates.BAD);
         due("type(min)", x.type(Integer.MIN_VALUE), SandPlates.BAD);
@@ -124,7 +124,7 @@ public final class PromisesTest {
         items("  edge  0  ;  stiff  7  ;  ", 2);
         items("plate2 6;drive1 5;row10;row01;", 4);
         items("edge 0;stiff 1;plate 6 2;edge 1;edge 0;", 5);
-        SandPlates x = told("plate 4 2;edge 0;stiff 7;loss 20;force 99;period 20;limit 99;drive 3 1;row 1001;");
+        Counted x = told("plate 4 2;edge 0;stiff 7;loss 20;force 99;period 20;limit 99;drive 3 1;row 1001;");
         settings("told", x, 0, 7, 20, 99, 20, 99, 7);
         counts("told", x, 4, 2, 2, 1, 0, 0, 0, 1);
         due("told figure 0 0", x.cell(0, 0, 3), 1);
@@ -207,7 +207,7 @@ public final class PromisesTest {
     }
 
     private static void tellsAnew() {
-        SandPlates x = told("plate 4 2;edge 0;stiff 7;loss 20;force 99;period 20;limit 9;drive 3 1;row 1001;");
+        Counted x = told("plate 4 2;edge 0;stiff 7;loss 20;force 99;period 20;limit 9;drive 3 1;row 1001;");
         x.shakes(1);
         x.keep(1);
         x.sees(3, 1);
@@ -223,7 +223,7 @@ public final class PromisesTest {
     }
 
     private static void shakes() {
-        SandPlates x = new SandPlates();
+        Counted x = new Counted();
         due("shakes(0)", x.shakes(0), SandPlates.BAD);
         due("shakes(21)", x.shakes(21), SandPlates.BAD);
         due("shakes(min)", x.shakes(Integer.MIN_VALUE), SandPlates.BAD);
@@ -254,7 +254,7 @@ public final class PromisesTest {
     /** On a slack plate motion dies away from the driver: both neighbours of it move alike, the far cell least. */
     private static void shakesByHand() {
         String slack = "plate 2 2;limit 0;edge 0;stiff 1;loss 2;";
-        SandPlates x = told(slack);
+        Counted x = told(slack);
         int beside = x.cell(1, 0, 0);
         due("the plate is alike about its diagonal", x.cell(0, 1, 0), beside);
         due("the driver moves most", x.cell(0, 0, 0) > beside && beside > x.cell(1, 1, 0) ? 1 : 0, 1);
@@ -286,7 +286,7 @@ public final class PromisesTest {
         int[] most = {1, 7, 20, 99, 20, 99};
         int[] first = {1, 4, 8, 40, 8, 10};
         for (int what = 0; what < 6; what++) {
-            SandPlates x = new SandPlates();
+            Counted x = new Counted();
             due("sets(" + what + ") too little", x.sets(what, least[what] - 1), SandPlates.BAD);
             due("sets(" + what + ") too much", x.sets(what, most[what] + 1), SandPlates.BAD);
             due("sets(" + what + ") as it is", x.sets(what, first[what]), SandPlates.STATE);
@@ -301,7 +301,7 @@ public final class PromisesTest {
                 due("the other settings stay", other == what ? first[other] : x.setting(other), first[other]);
             }
         }
-        SandPlates x = new SandPlates();
+        Counted x = new Counted();
         due("sets(-1, 0)", x.sets(-1, 0), SandPlates.BAD);
         due("sets(6, 1)", x.sets(6, 1), SandPlates.BAD);
         due("sets(min, 1)", x.sets(Integer.MIN_VALUE, 1), SandPlates.BAD);
@@ -309,7 +309,7 @@ public final class PromisesTest {
     }
 
     private static void drives() {
-        SandPlates x = told("plate 4 2;");
+        Counted x = told("plate 4 2;");
         due("drives(-1, 0)", x.drives(-1, 0), SandPlates.BAD);
         due("drives(0, -1)", x.drives(0, -1), SandPlates.BAD);
         due("drives(4, 0)", x.drives(4, 0), SandPlates.BAD);
@@ -326,7 +326,7 @@ public final class PromisesTest {
     }
 
     private static void draws() {
-        SandPlates x = told("plate 2 4;");
+        Counted x = told("plate 2 4;");
         due("draws(2, 0, 1)", x.draws(2, 0, 1), SandPlates.BAD);
         due("draws(0, 4, 1)", x.draws(0, 4, 1), SandPlates.BAD);
         due("draws(-1, 0, 1)", x.draws(-1, 0, 1), SandPlates.BAD);
@@ -346,7 +346,7 @@ public final class PromisesTest {
     }
 
     private static void sands() {
-        SandPlates x = new SandPlates();
+        Counted x = new Counted();
         due("sands() of new sand", x.sands(), SandPlates.STATE);
         due("sands() refused: undone", x.count(7), 0);
         x.shakes(1);
@@ -358,7 +358,7 @@ public final class PromisesTest {
     }
 
     private static void undo() {
-        SandPlates x = new SandPlates();
+        Counted x = new Counted();
         for (int force = 1; force <= 9; force++) {
             x.sets(3, force);
             due("may be undone", x.count(7), Math.min(6, force));
@@ -387,19 +387,19 @@ public final class PromisesTest {
     }
 
     private static void cell() {
-        SandPlates x = told("plate 2 3;");
+        Counted x = told("plate 2 3;");
         due("cell(2, 0, 0)", x.cell(2, 0, 0), SandPlates.BAD);
         due("cell(0, 3, 0)", x.cell(0, 3, 0), SandPlates.BAD);
         due("cell(-1, 0, 0)", x.cell(-1, 0, 0), SandPlates.BAD);
         due("cell(0, -1, 0)", x.cell(0, -1, 0), SandPlates.BAD);
         due("cell(0, 0, -1)", x.cell(0, 0, -1), SandPlates.BAD);
         due("cell(0, 0, 4)", x.cell(0, 0, 4), SandPlates.BAD);
-        x = new SandPlates();
         for (int period = 2; period <= 20; period++) {
+            x = new Counted();
             x.sets(4, period);
             motionsAgree(x, period);
         }
-        x.sets(0, 0);
+        x = told("edge 0;period 20;");
         motionsAgree(x, 20);
         x.sets(4, 2);
         int motion = x.cell(2, 2, 0);
@@ -411,7 +411,7 @@ public final class PromisesTest {
     }
 
     /** MOTION is what height() tells behind the steps 30 to 29 and PERIOD, step 0 being the first. */
-    private static void motionsAgree(SandPlates x, int period) {
+    private static void motionsAgree(Counted x, int period) {
         for (int at = 0; at < 9; at++) {
             int most = Integer.MIN_VALUE;
             int least = Integer.MAX_VALUE;
@@ -424,7 +424,7 @@ public final class PromisesTest {
     }
 
     private static void setting() {
-        SandPlates x = new SandPlates();
+        Counted x = new Counted();
         due("setting(-1)", x.setting(-1), SandPlates.BAD);
         due("setting(7)", x.setting(7), SandPlates.BAD);
         due("setting(max)", x.setting(Integer.MAX_VALUE), SandPlates.BAD);
@@ -432,7 +432,7 @@ public final class PromisesTest {
     }
 
     private static void height() {
-        SandPlates x = new SandPlates();
+        Counted x = new Counted();
         due("height(0, 0, -1)", x.height(0, 0, -1), -1000000);
         due("height(0, 0, 61)", x.height(0, 0, 61), -1000000);
         due("height(-1, 0, 0)", x.height(-1, 0, 0), -1000000);
@@ -464,7 +464,7 @@ public final class PromisesTest {
     }
 
     private static void still() {
-        SandPlates x = new SandPlates();
+        Counted x = new Counted();
         due("still(-1)", x.still(-1), SandPlates.BAD);
         due("still(3)", x.still(3), SandPlates.BAD);
         x = told("force 1;limit 99;plate 4 3;");
@@ -485,7 +485,7 @@ public final class PromisesTest {
     }
 
     private static void best() {
-        SandPlates x = new SandPlates();
+        Counted x = new Counted();
         due("best(-1)", x.best(-1), SandPlates.BAD);
         due("best(2)", x.best(2), SandPlates.BAD);
         x = told("limit 60;row 000;row 010;");
@@ -511,7 +511,7 @@ public final class PromisesTest {
     }
 
     private static void lies() {
-        SandPlates x = new SandPlates();
+        Counted x = new Counted();
         due("lies()", x.lies(), 1);
         due("lies() moves nothing", x.count(3), 1);
         due("lies() is not done", x.count(7), 0);
@@ -528,7 +528,7 @@ public final class PromisesTest {
     }
 
     private static void seesAndForget() {
-        SandPlates x = new SandPlates();
+        Counted x = new Counted();
         due("sees(-1, 0)", x.sees(-1, 0), SandPlates.BAD);
         due("sees(36, 0)", x.sees(36, 0), SandPlates.BAD);
         due("sees(0, -1)", x.sees(0, -1), SandPlates.BAD);
@@ -547,7 +547,7 @@ public final class PromisesTest {
     }
 
     private static void which() {
-        SandPlates x = told("limit 60;");
+        Counted x = told("limit 60;");
         due("which(-1)", x.which(-1), SandPlates.BAD);
         due("which(2)", x.which(2), SandPlates.BAD);
         due("which(0) of nothing seen", x.which(0), 19);
@@ -581,7 +581,7 @@ public final class PromisesTest {
     }
 
     private static void look() {
-        SandPlates x = told("force 1;limit 99;");
+        Counted x = told("force 1;limit 99;");
         due("look() where all are alike", x.look(), 0);
         x.sees(0, 0);
         due("look() where none can be", x.look(), SandPlates.NONE);
@@ -596,7 +596,7 @@ public final class PromisesTest {
     }
 
     private static void keepAndBack() {
-        SandPlates x = told("plate 5 4;row 11000;stiff 2;");
+        Counted x = told("plate 5 4;row 11000;stiff 2;");
         due("keep(-1)", x.keep(-1), SandPlates.BAD);
         due("keep(2)", x.keep(2), SandPlates.BAD);
         due("back(-1)", x.back(-1), SandPlates.BAD);
@@ -629,7 +629,7 @@ public final class PromisesTest {
     }
 
     private static void count() {
-        SandPlates x = told("plate 6 2;row 111000;row 000001;");
+        Counted x = told("plate 6 2;row 111000;row 000001;");
         due("count(-1)", x.count(-1), SandPlates.BAD);
         due("count(8)", x.count(8), SandPlates.BAD);
         due("count(max)", x.count(Integer.MAX_VALUE), SandPlates.BAD);
