@@ -54,7 +54,9 @@ public final class MotionBoundaryTest {
         Bench.holds("19: all else as it is when it is asked", MotionBoundaryTest::whichWhenAsked);
         Bench.holds("20: NONE (one can be at most)", MotionBoundaryTest::lookNone);
         Bench.holds("20: the greater of two is least; of several the lowest", MotionBoundaryTest::lookLowest);
+        Bench.holds("20: by how many of these it is STILL, by how many not", MotionBoundaryTest::lookAtHalf);
         Bench.holds("3: (Nothing is changed.)", MotionBoundaryTest::askingChangesNothing);
+        Bench.holds("3: what is asked is of the plate as it is, whatever was asked ahead", MotionBoundaryTest::askedAnew);
         Bench.end();
     }
 
@@ -725,6 +727,30 @@ public final class MotionBoundaryTest {
         Bench.due("all alike, none still", Bench.told("force 99;limit 0;stiff 4;loss 20;").look(), 0);
     }
 
+    /** By how many periods each cell is still, and the cell where that comes nearest to half of them. */
+    private static void lookIsDue(String text, int look, int... stillBy) {
+        Bench.due("'" + text + "', look()", Bench.told(text).look(), look);
+        for (int at = 0; at < stillBy.length; at++) {
+            Counted x = Bench.told(text);
+            int columns = x.count(0);
+            int many = 0;
+            for (int period = 2; period <= 20; period++) {
+                x.sets(4, period);
+                many += x.cell(at % columns, at / columns, 1);
+            }
+            Bench.due("'" + text + "', by how many " + at + " is still", many, stillBy[at]);
+        }
+    }
+
+    private static void lookAtHalf() {
+        lookIsDue("edge 0;stiff 7;limit 39;", 2, 1, 2, 13, 2, 1, 5, 13, 5, 2);
+        lookIsDue("edge 0;stiff 7;limit 43;", 5, 1, 3, 14, 3, 2, 6, 14, 6, 2);
+        lookIsDue("stiff 1;limit 41;", 8, 1, 7, 8, 7, 6, 7, 8, 7, 9);
+        lookIsDue("stiff 1;limit 29;drive 1 0;", 0, 6, 1, 6, 5, 6, 5, 6, 6, 6);
+        lookIsDue("plate 6 6;stiff 3;force 20;limit 72;", 35);
+        Bench.due("the last of 36, seen", seen("plate 6 6;" + CALM, 35, 1).look(), 0);
+    }
+
     private static void askingChangesNothing() {
         for (int what = 0; what < 8; what++) {
             int number = what;
@@ -738,5 +764,36 @@ public final class MotionBoundaryTest {
         Bench.changesNothing("height(2, 1, 60)", Bench::busy, x -> x.height(2, 1, 60));
         Bench.changesNothing("lies()", Bench::busy, Counted::lies);
         Bench.changesNothing("look()", Bench::busy, Counted::look);
+    }
+
+    /** What was worked out ahead of a change must not be answered behind it, by the first period or the last. */
+    private static void askedAnew() {
+        String[] numbers = {"plate 3 3;", "edge 1;", "stiff 4;", "loss 8;", "force 40;", "period 2;", "limit 10;",
+            "drive 0 0;"};
+        String[] others = {"plate 4 3;", "edge 0;", "stiff 5;", "loss 9;", "force 41;", "period 20;", "limit 60;",
+            "drive 1 0;"};
+        String all = String.join("", numbers);
+        for (int i = 0; i < numbers.length; i++) {
+            String changed = all.replace(numbers[i], others[i]);
+            askedBehind(all, changed);
+            askedBehind(changed, all);
+        }
+        askedBehind(all, all.replace("plate 3 3;", "plate 3 4;"));
+        askedBehind(all, "edge 0;stiff 5;loss 9;force 41;drive 1 0;period 2;");
+        askedBehind(all.replace("plate 3 3;", "plate 3 4;"), all.replace("plate 3 3;", "plate 4 3;"));
+    }
+
+    private static void askedBehind(String first, String then) {
+        Counted x = Bench.told(first);
+        Bench.asked(x);
+        Bench.tell(x, then);
+        Counted same = Bench.told(first);
+        Bench.tell(same, then);
+        Bench.dueSo("'" + then + "' behind '" + first + "'", Arrays.equals(Bench.asked(x), Bench.asked(same)));
+        x.sets(4, 19);
+        same.sets(4, 19);
+        x.sets(4, 20);
+        same.sets(4, 20);
+        Bench.due("by the last period", x.cell(2, 2, 0), same.cell(2, 2, 0));
     }
 }

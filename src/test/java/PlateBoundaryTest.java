@@ -577,6 +577,14 @@ public final class PlateBoundaryTest {
         for (int what = 0; what < 8; what++) {
             Bench.due("the least count(" + what + ")", least.count(what), lowest[what]);
         }
+        Counted first = Bench.told("plate 2 2;limit 0;edge 0;stiff 1;loss 2;drive 1 1;");
+        first.shakes(20);
+        Bench.due("the most grains, on the first cell", first.count(3), 4);
+        Bench.due("cells without any, the first one not", first.count(4), 3);
+        Counted last = Bench.told("plate 2 2;limit 0;edge 0;stiff 1;loss 2;");
+        last.shakes(20);
+        Bench.due("the most grains, on the last cell", last.count(3), 4);
+        Bench.due("cells without any, the last one not", last.count(4), 3);
         Counted most = Bench.told(GATHERING);
         most.shakes(20);
         for (int x = 0; x < 36; x++) {

@@ -430,6 +430,9 @@ public final class TextBoundaryTest {
             String behind = item.substring(blank);
             faultAt("", item.substring(0, blank - 1) + behind);
             faultAt("", item.substring(1));
+            for (int i = 0; i < blank; i++) {
+                faultAt("", item.substring(0, i) + "x" + item.substring(i + 1));
+            }
             faultAt("", item.substring(0, blank) + "s" + behind);
             faultAt("", item.substring(0, blank) + item);
             faultAt("limit 9;", item.substring(0, blank - 1) + behind);
